@@ -900,18 +900,22 @@ public final class InquiryBench {
 
     /** Goes from the highest paper down and holds it first, so sets come by their bits, the least first. */
     private void search(int paper, int without, int count, int level) {
-      if (count >= least || level + 1 > held.length) return;
+      if (count >= least) return;
       int p = paper;
       while (p >= 0 && !hasBit(bound, p)) p--;
       if (p < 0) {
         least = count;
         bits = without;
-        return;
+      } else {
+        holdOrLeave(p, without, count, level);
       }
-      if (level + 1 >= held.length) return;
+    }
+
+    private void holdOrLeave(int paper, int without, int count, int level) {
+      if (level < 0 || level + 1 >= held.length) return;
       held[level + 1].copy(held[level]);
-      if (isRight(p, held[level + 1])) search(p - 1, without, count, level + 1);
-      search(p - 1, without | 1 << p, count + 1, level);
+      if (isRight(paper, held[level + 1])) search(paper - 1, without, count, level + 1);
+      search(paper - 1, without | 1 << paper, count + 1, level);
     }
 
     private boolean isRight(int paper, Clocks clocks) {
