@@ -99,6 +99,7 @@ public final class ModelTest {
 
   private boolean feedText() {
     String t = text();
+    if (log.size() + t.length() / 8 + 2 > CALLS) return true;
     for (int i = 0; i < t.length(); i += 8) {
       int n = Math.min(8, t.length() - i);
       long eight = n < 8 && r.nextBoolean() ? -1L << (8 * n) : 0;

@@ -14,11 +14,12 @@ public final class PromiseTest {
   }
 
   private static void feed(InquiryBench x, String text) {
+    int had = x.many(13);
     for (int i = 0; i < text.length(); i += 8) {
       int n = Math.min(8, text.length() - i);
       long eight = 0;
       for (int j = 0; j < n; j++) eight |= (long) text.charAt(i + j) << (8 * j);
-      due("feed of '" + text + "'", x.feed(eight, n), x.many(13));
+      due("feed of '" + text + "'", x.feed(eight, n), had + i + n);
     }
   }
 
@@ -83,6 +84,10 @@ public final class PromiseTest {
       due("span", x.span(c, true), 1060);
     }
     x.person(0, 0);
+    x.keep();
+    x.paper(0, 0, 0, 0);
+    for (int i = 0; i < 4; i++) due("the shelves hold nothing: taken", x.taken(i, 0), -11);
+    x.again();
     due("the view goes up to level 3: paper", x.paper(0, 0, 0, 3), 0);
     due("many(3)", x.many(3), 1);
     x.days(1);
@@ -289,7 +294,14 @@ public final class PromiseTest {
     due("hour 1000: stamps(0, 1, 8, 1)", x.stamps(0, 1, 8, 1), STATE);
     due("clock -1: stamps(0, 1, 12, 1)", x.stamps(0, 1, 12, 1), STATE);
     due("hour -1: stamps(0, 1, 14, 1)", x.stamps(0, 1, 14, 1), STATE);
+    due("hour 1000 of the second: stamps(0, 1, 6, 2)", x.stamps(0, 1, 6, 2), STATE);
     due("all before one wrong: many(4)", x.many(4), 1);
+    row(x, 0, 1, 4, 0, 7, 0, 1000);
+    due("hour 1000 of the second: stamps(0, 0, 0, 2)", x.stamps(0, 0, 0, 2), STATE);
+    x.put(0, 3, 999);
+    x.put(0, 2, 6);
+    due("clock 6 of the second: stamps(0, 0, 0, 2)", x.stamps(0, 0, 0, 2), STATE);
+    due("many(4)", x.many(4), 1);
     due("stamps(1, 1, 0, 2)", x.stamps(1, 1, 0, 2), 3);
     due("sent(1, false)", x.sent(1, false), 1100);
     due("sent(1, true)", x.sent(1, true), 1124);
@@ -396,6 +408,17 @@ public final class PromiseTest {
     due("c3 holds c1: clash(1)", x.clash(1), 2);
     stamped(x, 0, 200, 2, 215);
     due("c2 too: clash(1)", x.clash(1), 4);
+    InquiryBench one = persons(2);
+    for (int i = 0; i < 3; i++) stamped(one, 0, 100, 1, i < 2 ? 130 : 155);
+    due("one rather than two of less bits: clash(1)", one.clash(1), 4);
+    InquiryBench fine = persons(2);
+    for (int i = 0; i < 11; i++) stamped(fine, 0, 100, 1 + i % 5, 110 + i);
+    stamped(fine, 1, 500, 1, 500);
+    due("all twelve are right: clash(1)", fine.clash(1), 0);
+    InquiryBench last = persons(2);
+    for (int i = 0; i < 11; i++) stamped(last, 0, 100, 1 + i % 5, 110 + i);
+    stamped(last, 1, 500, 1, 499);
+    due("the twelfth is not: clash(1)", last.clash(1), 2048);
     InquiryBench full = persons(2);
     for (int i = 0; i < 12; i++) stamped(full, 1, 200, 1, 100);
     due("all twelve: clash(1)", full.clash(1), 4095);
@@ -527,6 +550,13 @@ public final class PromiseTest {
     x.lose(4);
     due("lost: before(4, 0)", x.before(4, 0), NONE);
     due("before(0, 4)", x.before(0, 4), NONE);
+    InquiryBench twelve = persons(2);
+    for (int i = 0; i < 12; i++) stamped(twelve, i % 6, 300 + 30 * i);
+    due("the last paper: before(10, 11)", twelve.before(10, 11), 1);
+    due("before(5, 11)", twelve.before(5, 11), 2);
+    due("before(11, 5)", twelve.before(11, 5), 0);
+    due("sent(11, false)", twelve.sent(11, false), 1570);
+    due("hand(11, 1, true)", twelve.hand(11, 1, true), 1700);
     InquiryBench two = persons(2);
     stamped(two, 1, 300, 2, 300);
     stamped(two, 1, 320);
@@ -568,6 +598,8 @@ public final class PromiseTest {
     due("below 0: knew(2, 7, 1)", x.knew(2, 7, 1), 949);
     due("knew(1, 7, 1)", x.knew(1, 7, 1), NONE);
     should();
+    facts();
+    longTexts();
     shouldLoops();
   }
 
@@ -604,7 +636,10 @@ public final class PromiseTest {
     reads(x, "ask 5 by 8", -110);
     due("a fault makes none: knew(0, 5, 2)", x.knew(0, 5, 2), NONE);
     String[] holds = {"person = 1", "post=1", "had = 2", "made=0", "slow = 10", "slow<11", "slow > 9", "not slow > 10", "not not had>1",
-      "had<1 or had>1", "made<1 and post=1 or post=2", "post=2 or made<1 and post=1", "not (post=2 or had=1)", "not post=2 and had=2"};
+      "had<1 or had>1", "made<1 and post=1 or post=2", "post=2 or made<1 and post=1", "not (post=2 or had=1)", "not post=2 and had=2",
+      "person < 2", "not person < 1", "not person < 0", "not slow > 999", "person > 0", "not person > 1", "not post = 0", "(had=2 or had=1) and post=1",
+      "((post=0 or post=1) and (had=1 or had=2)) or slow=9", "not (not (not (not post=1)))", "post=1 or post=1 and post=2 and post=3",
+      "not post=1 or not post=2"};
     InquiryBench y = null;
     for (int i = 0; i < holds.length; i++) {
       if (i % 4 == 0) y = persons(3);
@@ -614,6 +649,44 @@ public final class PromiseTest {
       due(holds[i], y.knew(1, 7, 2), 1007);
       reads(y, "ask 7 by 7 if not (" + holds[i] + ");", 2 * (i % 4) + 1);
       due("not " + holds[i], y.knew(1, 7, 2), NONE);
+    }
+  }
+
+  /** Each fact by itself, of a person in whom all are unlike. */
+  private static void facts() {
+    InquiryBench x = persons(1);
+    x.person(4, 5);
+    x.paper(0, 2, 0, 0);
+    x.paper(0, 2, 0, 0);
+    for (int i = 0; i < 3; i++) x.paper(1, 1, 0, 0);
+    String[] facts = {"person", "post", "had", "made", "slow"};
+    int[] are = {1, 4, 2, 3, 5};
+    x.keep();
+    for (int f = 0; f < 5; f++) {
+      reads(x, "ask 1 by 1 if " + facts[f] + "=" + are[f] + "; ask 2 by 2 if " + facts[f] + "<" + are[f] + "; ask 3 by 3 if " + facts[f] + " < " + (are[f] + 1)
+          + "; ask 4 by 4 if " + facts[f] + ">" + are[f] + "; ask 5 by 5 if " + facts[f] + " > " + (are[f] - 1) + ";", 0);
+      int[] want = {NONE, 1001, NONE, 1003, NONE, 1005, NONE, NONE};
+      for (int t = 0; t < 8; t++) due(facts[f] + ": knew(1, " + t + ", 2)", x.knew(1, t, 2), want[t]);
+      x.again();
+    }
+  }
+
+  /** As many comparisons as a tape can hold, again and again. */
+  private static void longTexts() {
+    InquiryBench x = persons(2);
+    stamped(x, 0, 200);
+    String cond = " if" + " had=9 or".repeat(24) + " had=1";
+    for (int i = 0; i < 5; i++) reads(x, "ask 1 by 1" + cond, -335);
+    for (int i = 0; i < 8; i++) {
+      reads(x, "ask 1 by " + (i + 1) + cond + ";", i);
+      due("the last comparison holds: knew(1, 1, 2)", x.knew(1, 1, 2), 1001 + i);
+      due("none holds: knew(0, 1, 2)", x.knew(0, 1, 2), NONE);
+      x.days(1);
+    }
+    for (int i = 0; i < 8; i++) {
+      x.view(i, 3);
+      due("rules of day " + i + ": knew(1, 1, 2)", x.knew(1, 1, 2), 1001 + i);
+      due("line(" + i + ", 0, 2)", x.line(i, 0, 2), 1 + i);
     }
   }
 
@@ -678,8 +751,8 @@ public final class PromiseTest {
     String[] ends = {"taken", "taken 5", "taken 5 of", "taken 5 of 1", "taken 5 of 1 from", "taken 5 of 1 from 0", "warn", "warn 4", "ask", "ask 1",
       "ask 1 by", "ask 1 by 2", "heard", "heard 1", "warn 1 if", "warn 1 if not", "warn 1 if post", "warn 1 if post <", "warn 1 if post < 1",
       "warn 1 if (", "warn 1 if (post<1", "warn 1 if (post<1)", "warn 1 if post<1 and", "warn 1 if post<1 or", "warn 1 if post<1 or ((("};
-    for (String end : ends) reads(x, end, -100 - end.length());
-    for (String end : ends) reads(x, end + "  ", -102 - end.length());
+    for (String end : ends) faulty(end, end.length());
+    for (String end : ends) faulty(end + "  ", end.length() + 2);
     // At the sign ! stands what can't stand there, and is the last.
     String[] faults = {"!5", "!;", "!if", "!takenx 5", "!take 5", "!Taken", "!\t", "taken !of", "taken !;", "taken !100 of 1 from 1;",
       "taken !1000", "taken !0005", "taken 5 !from", "taken 5 !5", "taken 5 of !8 from 0;", "taken 5 of !x", "taken 5 of 1 !of", "taken 5 of 1 from !8;",
@@ -688,12 +761,17 @@ public final class PromiseTest {
       "warn 1 if !and", "warn 1 if not !or", "warn 1 if post !post", "warn 1 if post !!", "warn 1 if post !(", "warn 1 if post <!=", "warn 1 if post <!post", "warn 1 if post <!1000;",
       "warn 1 if post<1 !not", "warn 1 if post<1 !)", "warn 1 if post<1!,", "warn 1 if post<1 !if", "warn 1 if post<1 !post", "warn 1 if (post<1!;", "warn 1 if (!)",
       "warn 1 if ((((!(post=1)))));", "warn 1 if (post=1) and (((post=2 or (!(post=1)))));", "warn 1 if not(not(not(not(not !;", "warn 1 if not(not(not(not(not !(post=1)))));", "warn 1;!;", "warn 1; !1",
+      "taken 5 !warn 5; 5", "taken !heard 5 x", "ask 1 by !heard 5 x", "warn 1 if !heard 5; x", "warn 1 if not !ask 5", "warn 1 if post !warn 3 3",
+      "warn 1 if (post<1 !heard 2 2", "warn 1 if (post<1 and !) x", "warn 1 if (post<1 or !) x", "warn 1 if ((!) x", "warn 1 if (post<1 and (!) x", "warn !;;;",
+      "!xaken 5 of 1 from 0;", "!xarn 5;", "!xsk 1 by 1;", "!xeard 5;", "warn 1 !xf post=1;", "taken 5 !xf 1 from 0;", "taken 5 of 1 !xrom 0;",
+      "ask 1 !xy 5;", "warn 1 if !xost=1;", "warn 1 if !poxt=1;", "warn 1 if post=1 !xr post=1;", "warn 1 if post=1 !xnd post=1;", "warn 1 if !xot post=1;",
       "warn 1;!" + (char) 200, "warn 1;!" + (char) 0};
     for (String fault : faults) {
       int place = fault.indexOf('!');
       String text = fault.substring(0, place) + fault.substring(place + 1);
-      reads(x, text, -100 - place);
+      faulty(text, place);
     }
+    reads(x, "warn", -104);
     due("no version came: many(5)", x.many(5), 4);
     reads(x, "warn 1;warn 1;warn 1;warn 1;warn 1;warn 1;warn 1;warn 1;warn 1;", 4);
     reads(x, "warn 1;warn 1;warn 1;warn 1;warn 1;warn 1;warn 1;warn 1;warn 1; warn 1;", -164);
@@ -708,6 +786,12 @@ public final class PromiseTest {
     due("line(7, 0, 4)", x.line(7, 0, 4), 1);
   }
 
+  private static void faulty(String text, int place) {
+    InquiryBench x = new InquiryBench();
+    reads(x, text, -100 - place);
+    due("no version came: many(5)", x.many(5), 0);
+  }
+
   private static void line() {
     promise = 20;
     InquiryBench x = new InquiryBench();
@@ -717,6 +801,8 @@ public final class PromiseTest {
     int[][] want = {{0, 12, 3, 4, 1}, {1, 34, -9, -9, 0}, {2, 5, 678, -9, 0}, {3, 9, -9, -9, 0}, {0, 1, 1, 1, 0}, {1, 1, -9, -9, 1}, {2, 2, 3, -9, 1}};
     for (int i = 0; i < want.length; i++) for (int w = 0; w < 5; w++) due("line(1, " + i + ", " + w + ")", x.line(1, i, w), want[i][w]);
     due("line(2, 0, 1)", x.line(2, 0, 1), 4);
+    due("no cond: line(2, 0, 4)", x.line(2, 0, 4), 0);
+    for (int w = 2; w < 4; w++) due("line(2, 0, " + w + ")", x.line(2, 0, w), NO_ROW);
     due("line(2, 1, 1)", x.line(2, 1, 1), NO_ROW);
     due("line(0, 0, 0)", x.line(0, 0, 0), NO_ROW);
     outside("version", v -> x.line(v, 0, 0), -1, 3, NO_ROW);
@@ -761,7 +847,9 @@ public final class PromiseTest {
     outside("paper", p -> x.saying(0, 0, p, 11, true, -1), -1, 1, BAD);
     outside("how", h -> x.saying(0, 0, 0, h, true, -1), 0, 10000, BAD);
     outside("how", h -> x.saying(0, 0, 0, h, true, -1), 10, 9990, BAD);
-    outside("how", h -> x.saying(0, 0, 0, h, true, -1), -5, 10001, BAD);
+    outside("how", h -> x.saying(0, 0, 0, h, true, -1), -1, 10001, BAD);
+    outside("how", h -> x.saying(0, 0, 0, h, true, -1), -9, 10009, BAD);
+    outside("how", h -> x.saying(0, 0, 0, h, true, -1), -11, 9990, BAD);
     outside("talk", t -> x.saying(0, 0, 0, 11, true, t), -2, 0, BAD);
     due("many(6)", x.many(6), 0);
     due("saying(1, 0, 0, 9999, true, -1)", x.saying(1, 0, 0, 9999, true, -1), 0);
@@ -936,6 +1024,32 @@ public final class PromiseTest {
     leansByRules();
     warned();
     heard();
+    firstLines();
+  }
+
+  private static void firstLines() {
+    InquiryBench x = persons(2);
+    stamped(x, 0, 300);
+    x.finding(1, 0, 310, 0);
+    x.warn(1, 0);
+    due("findingOf(0, 6)", x.findingOf(0, 6), 0);
+    reads(x, "warn 1;", 0);
+    due("today is too late: findingOf(0, 6)", x.findingOf(0, 6), 1);
+    x.days(1);
+    due("a day ahead: findingOf(0, 6)", x.findingOf(0, 6), 0);
+    reads(x, "heard 1;", 1);
+    due("none was heard: findingOf(0, 6)", x.findingOf(0, 6), 1);
+    x.saying(1, 0, 0, 11, true, -1);
+    due("one was: findingOf(0, 6)", x.findingOf(0, 6), 0);
+    reads(x, "warn 99; heard 1;", 2);
+    x.days(98);
+    due("99 days ahead: findingOf(0, 6)", x.findingOf(0, 6), 0);
+    x.view(98, 3);
+    due("98 days ahead: findingOf(0, 6)", x.findingOf(0, 6), 1);
+    x.view(-1, 3);
+    x.lose(0);
+    due("findingOf(0, 5)", x.findingOf(0, 5), 0);
+    due("leans on none, but none was heard: findingOf(0, 6)", x.findingOf(0, 6), 1);
   }
 
   private static void leansByRules() {
@@ -1011,6 +1125,10 @@ public final class PromiseTest {
     finds(x, 0, 0, 0, 1);
     x.saying(1, 1, 0, 11, true, -1);
     finds(x, 0, 0, 0, 0);
+    x.keep();
+    x.saying(1, 1, 0, 11, true, -1);
+    due("more than two: findingOf(0, 6)", x.findingOf(0, 6), 0);
+    x.again();
     x.view(-1, 1);
     due("none counts: findingOf(0, 6)", x.findingOf(0, 6), 1);
     reads(x, "heard 0;", 1);
@@ -1181,6 +1299,9 @@ public final class PromiseTest {
     due("another order, question 1 on day 9: judge()", x.judge(), 2);
     x.alterRow(1, 1, 11);
     due("question 0 again: judge()", x.judge(), 3);
+    x.alterRow(2, 1, 14);
+    due("on the day that it would be over: judge()", x.judge(), 3);
+    x.alterRow(2, 1, 12);
     x.alterRow(2, 0, 2);
     due("any order is right: judge()", x.judge(), 0);
     for (int v : new int[] {3, -1, 31, 32, 33, 34, LOW, HIGH}) {
@@ -1206,6 +1327,8 @@ public final class PromiseTest {
     due("by the day of the round: judge()", x.judge(), 0);
     x.alterRow(1, 0, 1);
     due("question 1 wasn't asked: judge()", x.judge(), 2);
+    x.alterRow(1, 1, 10);
+    due("on the day that it would be over: judge()", x.judge(), 2);
     otherQuestions();
   }
 
@@ -1264,6 +1387,9 @@ public final class PromiseTest {
     due("what is refused changes nothing: item(1, 4, 39)", x.item(1, 4, 39), 1);
     due("anew: sheet(1, 4, 40)", x.sheet(1, 4, 40), 1);
     due("item(1, 4, 39)", x.item(1, 4, 39), 0);
+    x.put(1, 0, 1);
+    due("anew: sheet(1, 4, 40)", x.sheet(1, 4, 40), 1);
+    for (int i = 0; i < 40; i++) due("item(1, 4, " + i + ")", x.item(1, 4, i), 0);
     due("sheet(1, 2, 0)", x.sheet(1, 2, 0), 1);
     due("item(1, 2, 0)", x.item(1, 2, 0), -12);
     due("missing: sheet(1, -1, 41)", x.sheet(1, -1, 41), 1);
@@ -1326,6 +1452,7 @@ public final class PromiseTest {
     x.saying(3, 1, 0, 1105, true, -1);
     x.saying(2, 1, 0, 1107, true, 0);
     x.finding(3, 0, 77, 0);
+    x.saying(2, 1, 0, 1107, true, 1);
     return x;
   }
 
@@ -1336,7 +1463,7 @@ public final class PromiseTest {
     outside("shelf", s -> x.shelf(s, 4, 0), -1, 4, BAD);
     outside("what", w -> x.shelf(0, w, 0), -1, 5, BAD);
     outside("paper", n -> x.shelf(0, 0, n), -1, 4, BAD);
-    outside("saying", n -> x.shelf(0, 1, n), -1, 2, BAD);
+    outside("saying", n -> x.shelf(0, 1, n), -1, 3, BAD);
     outside("finding", n -> x.shelf(0, 2, n), -1, 1, BAD);
     outside("sheet", n -> x.shelf(0, 3, n), -1, 4, BAD);
     due("shelf(3, 0, 3)", x.shelf(3, 0, 3), 1);
@@ -1359,6 +1486,16 @@ public final class PromiseTest {
     outside("nothing: shelf(3, 4, n)", n -> x.shelf(3, 4, n), -1, 99, 1);
     due("taken(3, 2)", x.taken(3, 2), -11);
     due("taken(2, 4)", x.taken(2, 4), 1);
+    InquiryBench full = persons(1);
+    for (int i = 0; i < 12; i++) full.paper(0, 0, 0, 0);
+    for (int i = 0; i < 16; i++) full.saying(0, 0, 0, 11, true, -1);
+    for (int i = 0; i < 12; i++) full.finding(0, 0, 0, 0);
+    int[] most = {11, 15, 11};
+    for (int what = 0; what < 3; what++) {
+      due("the last: shelf(0, " + what + ", n)", full.shelf(0, what, most[what]), 1);
+      due("taken(0, 0)", full.taken(0, 0), most[what]);
+      due("one more: shelf(0, " + what + ", n)", full.shelf(0, what, most[what] + 1), BAD);
+    }
   }
 
   private static void taken() {
@@ -1370,7 +1507,7 @@ public final class PromiseTest {
     outside("as", a -> x.taken(0, a), 9, 15, BAD);
     due("nothing, but no such kind: taken(1, 8)", x.taken(1, 8), BAD);
     // shelf, n, then the kinds as which it can be taken
-    int[][] want = {{0, 0, 0, 1}, {0, 1, 0, 2}, {0, 2, 0, 1, 3}, {0, 3, 0, 2}, {1, 0, 0, 4, 5}, {1, 1, 0, 4}, {2, 0, 0, 6}};
+    int[][] want = {{0, 0, 0, 1}, {0, 1, 0, 2}, {0, 2, 0, 1, 3}, {0, 3, 0, 2}, {1, 0, 0, 4, 5}, {1, 1, 0, 4}, {1, 2, 0, 4}, {2, 0, 0, 6}};
     for (int[] w : want) {
       x.shelf(2, w[0], w[1]);
       for (int as = 0; as < 15; as++) {
@@ -1589,6 +1726,36 @@ public final class PromiseTest {
       due("again()", x.again(), 1);
       isAsKept(x);
       changeAll(x);
+    }
+    againAndAgain();
+  }
+
+  private static void againAndAgain() {
+    InquiryBench x = persons(2);
+    stamped(x, 0, 100);
+    x.paper(0, 2, 1, 2);
+    x.view(-1, 1);
+    reads(x, "heard 1; ask 1 by 5 if post=1;", 0);
+    x.keep();
+    x.lose(0);
+    x.view(-1, 3);
+    due("many(3)", x.many(3), 1);
+    x.again();
+    due("found again, and shut as it was: many(3)", x.many(3), 1);
+    due("paperOf(0, 6)", x.paperOf(0, 6), 1);
+    due("paperOf(1, 6)", x.paperOf(1, 6), 0);
+    due("lose(0)", x.lose(0), 1);
+    x.again();
+    for (int i = 0; i < 10; i++) {
+      reads(x, "heard 2;".repeat(7) + "ask 1 by 6;ask 2 by 7 if post=1;", 1);
+      due("line(1, 8, 2)", x.line(1, 8, 2), 7);
+      due("knew(1, 2, 2)", x.knew(1, 2, 2), 1007);
+      due("knew(0, 2, 2)", x.knew(0, 2, 2), NONE);
+      due("again()", x.again(), 1);
+      due("line(1, 8, 2)", x.line(1, 8, 2), NO_ROW);
+      due("line(0, 1, 2)", x.line(0, 1, 2), 5);
+      due("knew(1, 1, 2)", x.knew(1, 1, 2), 1005);
+      due("knew(0, 1, 2)", x.knew(0, 1, 2), NONE);
     }
   }
 
