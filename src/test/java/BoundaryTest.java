@@ -96,6 +96,12 @@ public final class BoundaryTest {
 
   /** Some of each, an hour for all that has one, other things kept than are there. */
   private static InquiryBench some() {
+    InquiryBench x = someButTape();
+    feed(x, "warn 7;");
+    return x;
+  }
+
+  private static InquiryBench someButTape() {
     InquiryBench x = new InquiryBench();
     x.person(1, 10);
     x.person(2, 0);
@@ -132,12 +138,17 @@ public final class BoundaryTest {
     x.shelf(1, 1, 0);
     x.shelf(2, 3, 1);
     x.deal(1, 2, 5);
-    feed(x, "warn 7;");
     return x;
   }
 
   /** As many of each as there may be. */
   private static InquiryBench full() {
+    InquiryBench x = fullButTape();
+    for (int i = 0; i < 30; i++) x.feed(0x2020202020202020L, 8);
+    return x;
+  }
+
+  private static InquiryBench fullButTape() {
     InquiryBench x = new InquiryBench();
     for (int i = 0; i < 10; i++) x.person(9 - i, i);
     for (int i = 0; i < 12; i++) x.paper(i % 10, 1023, 1 << i % 8, 0);
@@ -149,7 +160,6 @@ public final class BoundaryTest {
     for (int i = 0; i < 7; i++) x.question(7 - i, 1 << i);
     x.round(127);
     put(x, 0, 1, 40, 0, 500);
-    for (int i = 0; i < 30; i++) x.feed(0x2020202020202020L, 8);
     return x;
   }
 
@@ -172,73 +182,92 @@ public final class BoundaryTest {
   private static void refusals() {
     part("Terms");
     sentence("of several the first that the call's own line names, else the first named here");
-    refused("person", BoundaryTest::full, x -> x.person(10, 0), BAD);
-    refused("person", BoundaryTest::full, x -> x.person(0, 49), BAD);
-    refused("person", BoundaryTest::full, x -> x.person(0, 0), FULL);
-    refused("paper", BoundaryTest::full, x -> x.paper(10, 0, 0, 0), BAD);
-    refused("paper", BoundaryTest::full, x -> x.paper(0, 1024, 0, 0), BAD);
-    refused("paper", BoundaryTest::full, x -> x.paper(0, 0, 256, 0), BAD);
-    refused("paper", BoundaryTest::full, x -> x.paper(0, 0, 0, 4), BAD);
-    refused("paper", BoundaryTest::full, x -> x.paper(0, 0, 0, 0), FULL);
-    refused("stamp", BoundaryTest::full, x -> x.stamp(12, 0, 0), BAD);
-    refused("stamp", BoundaryTest::full, x -> x.stamp(0, 6, 0), BAD);
-    refused("stamp", BoundaryTest::full, x -> x.stamp(0, 0, 1000), BAD);
-    refused("stamp", BoundaryTest::full, x -> x.stamp(0, 0, 500), FULL);
-    refused("saying", BoundaryTest::full, x -> x.saying(10, 0, 0, 11, true, -1), BAD);
-    refused("saying", BoundaryTest::full, x -> x.saying(0, 0, 0, 10, true, -1), BAD);
-    refused("saying", BoundaryTest::full, x -> x.saying(0, 0, 0, 11, true, 16), BAD);
-    refused("saying", BoundaryTest::full, x -> x.saying(0, 0, 0, 11, true, -1), FULL);
-    refused("finding", BoundaryTest::full, x -> x.finding(0, 8, 0, 0), BAD);
-    refused("finding", BoundaryTest::full, x -> x.finding(0, 0, 1000, 0), BAD);
-    refused("finding", BoundaryTest::full, x -> x.finding(0, 0, 0, 0), FULL);
-    refused("warn", BoundaryTest::full, x -> x.warn(0, 12), BAD);
-    refused("warn", BoundaryTest::full, x -> x.warn(0, 0), FULL);
-    refused("question", BoundaryTest::full, x -> x.question(10, 0), BAD);
-    refused("question", BoundaryTest::full, x -> x.question(1, 256), BAD);
-    refused("question", BoundaryTest::full, x -> x.question(1, 0), FULL);
-    refused("feed", BoundaryTest::full, x -> x.feed(0L, 9), BAD);
-    refused("feed", BoundaryTest::full, x -> x.feed(0L, 1), FULL);
     refused("days", BoundaryTest::lastDay, x -> x.days(100), BAD);
+    refused("days", BoundaryTest::lastDay, x -> x.days(0), BAD);
     refused("days", BoundaryTest::lastDay, x -> x.days(1), STATE);
+    badAheadOfFull("person", x -> x.person(10, 0), x -> x.person(0, 49));
+    refused("person", BoundaryTest::full, x -> x.person(0, 0), FULL);
+    badAheadOfFull("paper", x -> x.paper(10, 0, 0, 0), x -> x.paper(0, 1024, 0, 0), x -> x.paper(0, 0, 256, 0), x -> x.paper(0, 0, 0, 4));
+    refused("paper", BoundaryTest::full, x -> x.paper(0, 0, 0, 0), FULL);
+    badAheadOfFull("stamp", x -> x.stamp(12, 0, 0), x -> x.stamp(0, 6, 0), x -> x.stamp(0, 0, 1000));
+    refused("stamp", BoundaryTest::full, x -> x.stamp(0, 0, 500), FULL);
+    badAheadOfFull("feed", x -> x.feed(0L, 9), x -> x.feed(0L, 0));
+    refused("feed", BoundaryTest::full, x -> x.feed(0L, 1), FULL);
+    badAheadOfFull("saying", x -> x.saying(10, 0, 0, 11, true, -1), x -> x.saying(0, 10, 0, 11, true, -1), x -> x.saying(0, 0, 12, 11, true, -1),
+        x -> x.saying(0, 0, 0, 10, true, -1), x -> x.saying(0, 0, 0, 11, true, 16));
+    refused("saying", BoundaryTest::full, x -> x.saying(0, 0, 0, 11, true, -1), FULL);
+    badAheadOfFull("finding", x -> x.finding(10, 0, 0, 0), x -> x.finding(0, 8, 0, 0), x -> x.finding(0, 0, 1000, 0), x -> x.finding(0, 0, 0, 3));
+    refused("finding", BoundaryTest::full, x -> x.finding(0, 0, 0, 0), FULL);
+    badAheadOfFull("warn", x -> x.warn(10, 0), x -> x.warn(0, 12));
+    refused("warn", BoundaryTest::full, x -> x.warn(0, 0), FULL);
+    badAheadOfFull("question", x -> x.question(10, 0), x -> x.question(1, 256));
+    refused("question", BoundaryTest::full, x -> x.question(1, 0), FULL);
     refused("span", BoundaryTest::clashing, x -> x.span(6, true), BAD);
     refused("span", BoundaryTest::clashing, x -> x.span(0, true), STATE);
     refused("sent", BoundaryTest::clashing, x -> x.sent(2, true), BAD);
+    refused("sent", BoundaryTest::clashing, x -> x.sent(0, true), NONE);
     refused("hand", BoundaryTest::clashing, x -> x.hand(0, 2, true), BAD);
+    refused("hand", BoundaryTest::clashing, x -> x.hand(0, 1, true), NONE);
     refused("before", BoundaryTest::clashing, x -> x.before(0, 0), BAD);
     refused("before", BoundaryTest::clashing, x -> x.before(0, 1), NONE);
+    refused("knew", BoundaryTest::clashing, x -> x.knew(0, 8, 0), BAD);
+    refused("knew", BoundaryTest::clashing, x -> x.knew(0, 0, 3), BAD);
+    refused("knew", BoundaryTest::clashing, x -> x.knew(0, 0, 0), NONE);
+    refused("why", BoundaryTest::clashing, x -> x.why(0, 8), BAD);
+    refused("why", BoundaryTest::clashing, x -> x.why(0, 0), NONE);
     ordersOfTheHost();
     sentence("such a call changes nothing (but that THE TAPE is used up)");
-    readUsesUp("warn 1", -106);
-    InquiryBench x = full();
-    due("read() behind eight versions", x.read(), FULL);
-    due("many(13)", x.many(13), 0);
-    due("many(5)", x.many(5), 8);
+    readUsesUp("warn 1", -106, BoundaryTest::someButTape);
+    readUsesUp("warn 1;;", -107, InquiryBench::new);
+    readUsesUp("warn 1;", FULL, BoundaryTest::fullButTape);
+    readUsesUp("", FULL, BoundaryTest::fullButTape);
+    readUsesUp("warn 100;", -105, BoundaryTest::fullButTape);
   }
 
-  private static void readUsesUp(String text, int want) {
-    InquiryBench x = new InquiryBench();
+  private static void badAheadOfFull(String call, Call... calls) {
+    for (Call f : calls) refused(call, BoundaryTest::full, f, BAD);
+  }
+
+  private static void readUsesUp(String text, int want, Supplier<InquiryBench> bench) {
+    refused("read() of '" + text + "'", bench, x -> read(x, text), want);
+    InquiryBench x = bench.get();
     due("read() of '" + text + "'", read(x, text), want);
     due("many(13)", x.many(13), 0);
-    due("many(5)", x.many(5), 0);
-    List<String> is = State.of(x), was = State.of(new InquiryBench());
-    due("nothing else is changed", is.equals(was) ? 1 : 0, 1);
   }
 
   private static void ordersOfTheHost() {
     refused("of bytes, and outside: stamps", BoundaryTest::some, x -> x.stamps(0, 0, 4, 1), OTHER_KIND);
     refused("missing, and outside: stamps", BoundaryTest::some, x -> x.stamps(0, 2, 4, 1), NOTHING);
     refused("no such n, and missing: stamps", BoundaryTest::some, x -> x.stamps(0, 2, 4, 10), BAD);
+    refused("no such n, and of bytes: stamps", BoundaryTest::some, x -> x.stamps(0, 0, 4, 10), BAD);
+    refused("no such paper, and outside: stamps", BoundaryTest::some, x -> x.stamps(4, 1, 4, 1), BAD);
+    refused("no such paper, and not as told: stamps", BoundaryTest::some, x -> x.stamps(4, 1, 1, 2), BAD);
+    refused("no such paper, and full: stamps", () -> fullSheet(0, 500), x -> x.stamps(12, 0, 0, 1), BAD);
+    refused("missing, and full: stamps", () -> fullSheet(0, 500), x -> x.stamps(0, 1, 0, 1), NOTHING);
+    refused("of ints, and full: stamps", BoundaryTest::fullOfInts, x -> x.stamps(0, 0, 0, 1), OTHER_KIND);
     refused("outside, and not as told: stamps", BoundaryTest::some, x -> x.stamps(0, 1, 4, 1), OUTSIDE);
     refused("not as told: stamps", BoundaryTest::some, x -> x.stamps(0, 1, 1, 2), STATE);
     refused("full, and not as told: stamps", () -> fullSheet(6, 500), x -> x.stamps(0, 0, 0, 1), STATE);
     refused("full, and outside: stamps", () -> fullSheet(0, 500), x -> x.stamps(0, 0, 39, 1), OUTSIDE);
     refused("full: stamps", () -> fullSheet(0, 500), x -> x.stamps(0, 0, 0, 1), FULL);
     refused("no such sort, and below 0: sheet", BoundaryTest::some, x -> x.sheet(0, 5, -1), BAD);
+    refused("no such sheet, and below 0: sheet", BoundaryTest::some, x -> x.sheet(4, 0, -1), BAD);
     refused("below 0: sheet", BoundaryTest::some, x -> x.sheet(0, 0, -1), BELOW_0);
+    refused("no such sheet, and outside: put", BoundaryTest::some, x -> x.put(4, 99, 1), BAD);
     refused("missing, and outside: put", BoundaryTest::some, x -> x.put(2, 99, 1), NOTHING);
     refused("of bytes, and outside: item", BoundaryTest::some, x -> x.item(0, 1, 99), OTHER_KIND);
     refused("missing, and outside: item", BoundaryTest::some, x -> x.item(2, 1, 99), NOTHING);
+    refused("no such sort, and missing: item", BoundaryTest::some, x -> x.item(2, 5, 99), BAD);
+    refused("no such sort, and outside: item", BoundaryTest::some, x -> x.item(0, 5, 99), BAD);
     refused("no such kind, and nothing: taken", BoundaryTest::some, x -> x.taken(3, 7), BAD);
+    refused("no such kind, of a paper: taken", BoundaryTest::some, x -> x.taken(0, 7), BAD);
+    refused("no such kind, of a row: taken", BoundaryTest::some, x -> x.taken(2, 15), BAD);
+  }
+
+  private static InquiryBench fullOfInts() {
+    InquiryBench x = full();
+    x.sheet(0, 2, 40);
+    return x;
   }
 
   private static InquiryBench fullSheet(int clock, int h) {
@@ -1105,13 +1134,22 @@ public final class BoundaryTest {
     due("one of two: judge()", few.judge(), 2);
     few.dropRow();
     due("none of two: judge()", few.judge(), 1);
-    sentence("by the QUESTIONS and the DAY of the latest round() that was not refused");
+    sentence("by the QUESTIONS (by their numbers, with their DAYS as they are now) and the DAY of the latest round() that was not refused");
     InquiryBench day = asked();
     day.days(9);
     day.round(0);
     day.round(8);
     day.round(-1);
     due("judge()", day.judge(), 0);
+    InquiryBench now = new InquiryBench();
+    now.keep();
+    now.question(3, 1);
+    now.round(1);
+    now.again();
+    now.question(4, 1);
+    due("it takes 4 days now: judge()", now.judge(), 1);
+    now.alterRow(0, 1, 4);
+    due("over on day 4: judge()", now.judge(), 0);
     sentence("NONE: there was none yet.");
     refused("judge()", InquiryBench::new, y -> y.judge(), NONE);
     InquiryBench none = new InquiryBench();
