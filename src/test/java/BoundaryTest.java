@@ -23,6 +23,11 @@ public final class BoundaryTest {
     sentences++;
   }
 
+  private static void promise(int n, String of) {
+    part("Promise " + n);
+    sentence(of);
+  }
+
   private static void due(String call, int got, int want) {
     answers++;
     if (got == want) return;
@@ -179,49 +184,75 @@ public final class BoundaryTest {
 
   // ---- ahead of section 1
 
+  /** Of several refusals that which the call's own line names first, and none of them changes anything. */
   private static void refusals() {
-    part("Terms");
-    sentence("of several the first that the call's own line names, else the first named here");
+    promise(2, "BAD; STATE: it would be above 499.");
     refused("days", BoundaryTest::lastDay, x -> x.days(100), BAD);
     refused("days", BoundaryTest::lastDay, x -> x.days(0), BAD);
     refused("days", BoundaryTest::lastDay, x -> x.days(1), STATE);
+    promise(4, "A PERSON: their number. BAD; FULL.");
     badAheadOfFull("person", x -> x.person(10, 0), x -> x.person(0, 49));
     refused("person", BoundaryTest::full, x -> x.person(0, 0), FULL);
+    promise(6, "BAD: there is no such PERSON, to has a bit of none, a number isn't as told; FULL.");
     badAheadOfFull("paper", x -> x.paper(10, 0, 0, 0), x -> x.paper(0, 1024, 0, 0), x -> x.paper(0, 0, 256, 0), x -> x.paper(0, 0, 0, 4));
     refused("paper", BoundaryTest::full, x -> x.paper(0, 0, 0, 0), FULL);
+    promise(9, "A STAMP on a PAPER, behind those that it has: its number. BAD; FULL.");
     badAheadOfFull("stamp", x -> x.stamp(12, 0, 0), x -> x.stamp(0, 6, 0), x -> x.stamp(0, 0, 1000));
     refused("stamp", BoundaryTest::full, x -> x.stamp(0, 0, 500), FULL);
+    promise(18, "how many it has. BAD; FULL: more than 240.");
     badAheadOfFull("feed", x -> x.feed(0L, 9), x -> x.feed(0L, 0));
     refused("feed", BoundaryTest::full, x -> x.feed(0L, 1), FULL);
+    promise(22, "how: 10 times the HOUR, and WEIGHT; talk: another SAYING, or -1. BAD; FULL.");
     badAheadOfFull("saying", x -> x.saying(10, 0, 0, 11, true, -1), x -> x.saying(0, 10, 0, 11, true, -1), x -> x.saying(0, 0, 12, 11, true, -1),
         x -> x.saying(0, 0, 0, 10, true, -1), x -> x.saying(0, 0, 0, 11, true, 16));
     refused("saying", BoundaryTest::full, x -> x.saying(0, 0, 0, 11, true, -1), FULL);
+    promise(25, "A FINDING: its number. BAD; FULL.");
     badAheadOfFull("finding", x -> x.finding(10, 0, 0, 0), x -> x.finding(0, 8, 0, 0), x -> x.finding(0, 0, 1000, 0), x -> x.finding(0, 0, 0, 3));
     refused("finding", BoundaryTest::full, x -> x.finding(0, 0, 0, 0), FULL);
+    promise(27, "A WARNING: its number. BAD; FULL.");
     badAheadOfFull("warn", x -> x.warn(10, 0), x -> x.warn(0, 12));
     refused("warn", BoundaryTest::full, x -> x.warn(0, 0), FULL);
+    promise(28, "A QUESTION: its number. BAD; FULL.");
     badAheadOfFull("question", x -> x.question(10, 0), x -> x.question(1, 256));
     refused("question", BoundaryTest::full, x -> x.question(1, 0), FULL);
+    promise(13, "BAD; STATE: they CLASH.");
     refused("span", BoundaryTest::clashing, x -> x.span(6, true), BAD);
     refused("span", BoundaryTest::clashing, x -> x.span(0, true), STATE);
+    promise(14, "BAD; NONE: it has none, or isn't in THE VIEW.");
     refused("sent", BoundaryTest::clashing, x -> x.sent(2, true), BAD);
     refused("sent", BoundaryTest::clashing, x -> x.sent(0, true), NONE);
+    promise(15, "BAD; NONE: it isn't TO them nor by them, has no SENT, or isn't in THE VIEW.");
     refused("hand", BoundaryTest::clashing, x -> x.hand(0, 2, true), BAD);
     refused("hand", BoundaryTest::clashing, x -> x.hand(0, 1, true), NONE);
+    promise(16, "BAD: also of one alone; NONE: one has no SENT, or isn't in THE VIEW.");
     refused("before", BoundaryTest::clashing, x -> x.before(0, 0), BAD);
     refused("before", BoundaryTest::clashing, x -> x.before(0, 1), NONE);
+    promise(17, "in a WAY (0 SURE, 1 MAY, 2 SHOULD). BAD; NONE.");
     refused("knew", BoundaryTest::clashing, x -> x.knew(0, 8, 0), BAD);
     refused("knew", BoundaryTest::clashing, x -> x.knew(0, 0, 3), BAD);
     refused("knew", BoundaryTest::clashing, x -> x.knew(0, 0, 0), NONE);
+    promise(21, "BAD; NONE: there is no such HOUR, or it is that of SURE.");
     refused("why", BoundaryTest::clashing, x -> x.why(0, 8), BAD);
     refused("why", BoundaryTest::clashing, x -> x.why(0, 0), NONE);
+    promise(23, "BAD; NONE: the PAPER isn't in THE VIEW.");
+    refused("quarrel", BoundaryTest::gone, x -> x.quarrel(2, 0, 0), BAD);
+    refused("quarrel", BoundaryTest::gone, x -> x.quarrel(0, 0, 2), BAD);
+    refused("quarrel", BoundaryTest::gone, x -> x.quarrel(0, 0, 1), NONE);
     ordersOfTheHost();
+    part("Terms");
     sentence("such a call changes nothing (but that THE TAPE is used up)");
     readUsesUp("warn 1", -106, BoundaryTest::someButTape);
     readUsesUp("warn 1;;", -107, InquiryBench::new);
     readUsesUp("warn 1;", FULL, BoundaryTest::fullButTape);
     readUsesUp("", FULL, BoundaryTest::fullButTape);
     readUsesUp("warn 100;", -105, BoundaryTest::fullButTape);
+  }
+
+  /** A paper that is lost. */
+  private static InquiryBench gone() {
+    InquiryBench x = one(0, 100);
+    x.lose(0);
+    return x;
   }
 
   private static void badAheadOfFull(String call, Call... calls) {
@@ -236,6 +267,7 @@ public final class BoundaryTest {
   }
 
   private static void ordersOfTheHost() {
+    promise(10, "how many STAMPS there are in all. BAD: there is no such PAPER, SHEET, n; -13; -11; -12; STATE: one isn't as told; FULL");
     refused("of bytes, and outside: stamps", BoundaryTest::some, x -> x.stamps(0, 0, 4, 1), OTHER_KIND);
     refused("missing, and outside: stamps", BoundaryTest::some, x -> x.stamps(0, 2, 4, 1), NOTHING);
     refused("no such n, and missing: stamps", BoundaryTest::some, x -> x.stamps(0, 2, 4, 10), BAD);
@@ -250,15 +282,19 @@ public final class BoundaryTest {
     refused("full, and not as told: stamps", () -> fullSheet(6, 500), x -> x.stamps(0, 0, 0, 1), STATE);
     refused("full, and outside: stamps", () -> fullSheet(0, 500), x -> x.stamps(0, 0, 39, 1), OUTSIDE);
     refused("full: stamps", () -> fullSheet(0, 500), x -> x.stamps(0, 0, 0, 1), FULL);
+    promise(34, "BAD: no such SHEET, sort, n above 40; -14.");
     refused("no such sort, and below 0: sheet", BoundaryTest::some, x -> x.sheet(0, 5, -1), BAD);
     refused("no such sheet, and below 0: sheet", BoundaryTest::some, x -> x.sheet(4, 0, -1), BAD);
     refused("below 0: sheet", BoundaryTest::some, x -> x.sheet(0, 0, -1), BELOW_0);
+    promise(35, "BAD: no such SHEET; -11; -12.");
     refused("no such sheet, and outside: put", BoundaryTest::some, x -> x.put(4, 99, 1), BAD);
     refused("missing, and outside: put", BoundaryTest::some, x -> x.put(2, 99, 1), NOTHING);
+    promise(36, "BAD: no such SHEET, sort; -13; -11; -12.");
     refused("of bytes, and outside: item", BoundaryTest::some, x -> x.item(0, 1, 99), OTHER_KIND);
     refused("missing, and outside: item", BoundaryTest::some, x -> x.item(2, 1, 99), NOTHING);
     refused("no such sort, and missing: item", BoundaryTest::some, x -> x.item(2, 5, 99), BAD);
     refused("no such sort, and outside: item", BoundaryTest::some, x -> x.item(0, 5, 99), BAD);
+    promise(38, "BAD: no such SHELF, as; -13; -11.");
     refused("no such kind, and nothing: taken", BoundaryTest::some, x -> x.taken(3, 7), BAD);
     refused("no such kind, of a paper: taken", BoundaryTest::some, x -> x.taken(0, 7), BAD);
     refused("no such kind, of a row: taken", BoundaryTest::some, x -> x.taken(2, 15), BAD);
@@ -1413,36 +1449,30 @@ public final class BoundaryTest {
   // ---- the promises
 
   private static void promises() {
-    part("Promise 1");
-    sentence("DAY 0; nothing is there; nothing is kept.");
+    promise(1, "DAY 0; nothing is there; nothing is kept.");
     InquiryBench x = new InquiryBench();
     for (int w = 0; w < 15; w++) due("many(" + w + ")", x.many(w), 0);
     due("again()", x.again(), NONE);
-    part("Promise 2");
-    sentence("TODAY goes n (1 to 99) DAYS on: it. BAD; STATE: it would be above 499.");
+    promise(2, "TODAY goes n (1 to 99) DAYS on: it. BAD; STATE: it would be above 499.");
     edges("days(n)", BoundaryTest::some, 1, 99, BAD, (y, n) -> y.days(n));
     for (int left = 1; left < 100; left += 49) {
       int n = left;
       due("to the last day: days(" + n + ")", near(n).days(n), 499);
       if (n < 99) refused("one too many: days(" + (n + 1) + ")", () -> near(n), y -> y.days(n + 1), STATE);
     }
-    part("Promise 3");
-    sentence("THE VIEW is a DAY (-1: TODAY, as it goes on) and a LEVEL: how many PAPERS are in it. BAD.");
+    promise(3, "THE VIEW is a DAY (-1: TODAY, as it goes on) and a LEVEL: how many PAPERS are in it. BAD.");
     edges("view(0, level)", BoundaryTest::some, 0, 3, BAD, (y, l) -> y.view(0, l));
     due("no papers: view(0, 0)", new InquiryBench().view(0, 0), 0);
     due("all twelve: view(0, 0)", full().view(0, 0), 12);
-    part("Promise 5");
-    sentence("Of a PERSON: what = 0 POST, 1 SLOW, 2 how many PAPERS in THE VIEW are TO them, 3 by them, 4 how many SAYINGS that count are by them. BAD.");
+    promise(5, "Of a PERSON: what = 0 POST, 1 SLOW, 2 how many PAPERS in THE VIEW are TO them, 3 by them, 4 how many SAYINGS that count are by them. BAD.");
     edges("personOf(p, 0)", BoundaryTest::some, 0, 2, BAD, (y, p) -> y.personOf(p, 0));
     edges("personOf(0, what)", BoundaryTest::some, 0, 4, BAD, (y, w) -> y.personOf(0, w));
     refused("there is none: personOf(0, 0)", InquiryBench::new, y -> y.personOf(0, 0), BAD);
-    part("Promise 7");
-    sentence("A PAPER is LOST from TODAY on: 1. BAD; STATE: it is.");
+    promise(7, "A PAPER is LOST from TODAY on: 1. BAD; STATE: it is.");
     edges("lose(p)", BoundaryTest::full, 0, 11, BAD, (y, p) -> y.lose(p));
     refused("it is: lose(3)", BoundaryTest::some, y -> y.lose(3), STATE);
     refused("it is, since another day: lose(3)", BoundaryTest::later, y -> y.lose(3), STATE);
-    part("Promise 8");
-    sentence("5 how many STAMPS it has, 6 1 if it is in THE VIEW, else 0. BAD.");
+    promise(8, "5 how many STAMPS it has, 6 1 if it is in THE VIEW, else 0. BAD.");
     edges("paperOf(p, 0)", BoundaryTest::some, 0, 3, BAD, (y, p) -> y.paperOf(p, 0));
     edges("paperOf(0, what)", BoundaryTest::some, 0, 6, BAD, (y, w) -> y.paperOf(0, w));
     stampsFromASheet();
@@ -1464,8 +1494,7 @@ public final class BoundaryTest {
   }
 
   private static void stampsFromASheet() {
-    part("Promise 10");
-    sentence("n (0 to 9) STAMPS on a PAPER from a SHEET taken for shorts, from item i on");
+    promise(10, "n (0 to 9) STAMPS on a PAPER from a SHEET taken for shorts, from item i on");
     edges("stamps(p, 1, 0, 1)", BoundaryTest::some, 0, 3, BAD, (x, p) -> x.stamps(p, 1, 0, 1));
     edges("stamps(0, s, 0, 0)", BoundaryTest::some, 0, 3, BAD, (x, s) -> x.stamps(0, s, 0, 0));
     edges("stamps(0, 1, 0, n)", BoundaryTest::long0, 0, 9, BAD, (x, n) -> x.stamps(0, 1, 0, n));
@@ -1518,14 +1547,12 @@ public final class BoundaryTest {
   }
 
   private static void manyAndKept() {
-    part("Promise 41");
-    sentence("BAD: another what.");
+    promise(41, "BAD: another what.");
     edges("many(what)", BoundaryTest::some, 0, 14, BAD, (x, w) -> x.many(w));
     int[] most = {0, 10, 12, 12, 24, 8, 16, 16, 12, 12, 16, 7, 7, 240, 0};
     InquiryBench full = full();
     for (int w = 0; w < 15; w++) if (w != 9) due("full: many(" + w + ")", full.many(w), most[w]);
-    part("Promise 42");
-    sentence("All (THE VIEW, too) but THE TAPE, ROWS, SHEETS, SHELVES, THE TRACE is kept: 1.");
+    promise(42, "All (THE VIEW, too) but THE TAPE, ROWS, SHEETS, SHELVES, THE TRACE is kept: 1.");
     InquiryBench kept = full();
     due("keep()", kept.keep(), 1);
     due("again()", kept.again(), 1);
@@ -1551,8 +1578,7 @@ public final class BoundaryTest {
     over.person(1, 1);
     due("again()", over.again(), 1);
     due("which stays: many(1)", over.many(1), 2);
-    part("Promise 43");
-    sentence("It becomes what was kept latest (which stays): 1. NONE: nothing is kept.");
+    promise(43, "It becomes what was kept latest (which stays): 1. NONE: nothing is kept.");
     refused("nothing is kept: again()", BoundaryTest::full, x -> x.again(), NONE);
     refused("nothing is kept: again()", InquiryBench::new, x -> x.again(), NONE);
     part("What it is");
