@@ -426,6 +426,14 @@ public final class PromiseTest {
     InquiryBench pairs = persons(2);
     for (int i = 0; i < 12; i++) stamped(pairs, 0, 100, 1 + i % 5, i < 5 ? 110 : 150);
     due("as many on either side: clash(1)", pairs.clash(1), 31);
+    InquiryBench unseen = persons(2);
+    unseen.paper(0, 2, 1, 1);
+    unseen.stamp(0, 0, 100);
+    unseen.stamp(0, 0, 99);
+    due("paper 0 alone: clash(1)", unseen.clash(1), 1);
+    stamped(unseen, 0, 100, 0, 99);
+    unseen.view(-1, 0);
+    due("paper 0 is not in the view: clash(1)", unseen.clash(1), 2);
   }
 
   private static void span() {
@@ -557,6 +565,8 @@ public final class PromiseTest {
     due("before(11, 5)", twelve.before(11, 5), 0);
     due("sent(11, false)", twelve.sent(11, false), 1570);
     due("hand(11, 1, true)", twelve.hand(11, 1, true), 1700);
+    due("90 hours by two clocks that may be 120 apart: before(8, 11)", twelve.before(8, 11), 1);
+    due("before(11, 8)", twelve.before(11, 8), 1);
     InquiryBench two = persons(2);
     stamped(two, 1, 300, 2, 300);
     stamped(two, 1, 320);
@@ -598,6 +608,7 @@ public final class PromiseTest {
     due("below 0: knew(2, 7, 1)", x.knew(2, 7, 1), 949);
     due("knew(1, 7, 1)", x.knew(1, 7, 1), NONE);
     should();
+    conds();
     facts();
     longTexts();
     shouldLoops();
@@ -649,6 +660,25 @@ public final class PromiseTest {
       due(holds[i], y.knew(1, 7, 2), 1007);
       reads(y, "ask 7 by 7 if not (" + holds[i] + ");", 2 * (i % 4) + 1);
       due("not " + holds[i], y.knew(1, 7, 2), NONE);
+    }
+  }
+
+  /** All truths of three facts: not before and, and before or, each ahead of what stands in it. */
+  private static void conds() {
+    String[] conds = {"A and B", "A or B", "A and B and C", "A or B or C", "A and B or C", "A or B and C", "A and (B or C)", "(A or B) and C",
+      "not A and B", "not (A and B)", "not A or B", "not (A or B)", "A and not B or C", "A or not B and not C", "not (A or B) and C"};
+    for (int truth = 0; truth < 8; truth++) {
+      InquiryBench x = persons(1);
+      boolean a = (truth & 1) == 1, b = (truth & 2) == 2, c = (truth & 4) == 4;
+      boolean[] want = {a && b, a || b, a && b && c, a || b || c, a && b || c, a || b && c, a && (b || c), (a || b) && c,
+        !a && b, !(a && b), !a || b, !(a || b), a && !b || c, a || !b && !c, !(a || b) && c};
+      x.keep();
+      for (int i = 0; i < conds.length; i++) {
+        String cond = conds[i].replace("A", a ? "post=0" : "post>0").replace("B", b ? "had<1" : "had=1").replace("C", c ? "slow<9" : "slow>9");
+        reads(x, "ask 0 by 5 if " + cond + ";", 0);
+        due(cond + ": knew(0, 0, 2)", x.knew(0, 0, 2), want[i] ? 1005 : NONE);
+        x.again();
+      }
     }
   }
 
@@ -765,6 +795,7 @@ public final class PromiseTest {
       "warn 1 if (post<1 !heard 2 2", "warn 1 if (post<1 and !) x", "warn 1 if (post<1 or !) x", "warn 1 if ((!) x", "warn 1 if (post<1 and (!) x", "warn !;;;",
       "!xaken 5 of 1 from 0;", "!xarn 5;", "!xsk 1 by 1;", "!xeard 5;", "warn 1 !xf post=1;", "taken 5 !xf 1 from 0;", "taken 5 of 1 !xrom 0;",
       "ask 1 !xy 5;", "warn 1 if !xost=1;", "warn 1 if !poxt=1;", "warn 1 if post=1 !xr post=1;", "warn 1 if post=1 !xnd post=1;", "warn 1 if !xot post=1;",
+      "taken !a of 1 from 0;", "taken 5 of !a from 0;", "ask !a by 1;", "ask 1 by !a;", "warn !a;", "warn 1 if post=!a;", "heard !a;", "!7 5;", "warn 1 if !7=1;",
       "warn 1;!" + (char) 200, "warn 1;!" + (char) 0};
     for (String fault : faults) {
       int place = fault.indexOf('!');
@@ -1024,6 +1055,7 @@ public final class PromiseTest {
     leansByRules();
     warned();
     heard();
+    heardLater();
     firstLines();
   }
 
@@ -1050,6 +1082,26 @@ public final class PromiseTest {
     x.lose(0);
     due("findingOf(0, 5)", x.findingOf(0, 5), 0);
     due("leans on none, but none was heard: findingOf(0, 6)", x.findingOf(0, 6), 1);
+  }
+
+  /** The version that comes next, and its first line, say nothing yet. */
+  private static void heardLater() {
+    InquiryBench x = persons(2);
+    stamped(x, 0, 300);
+    x.finding(1, 0, 310, 0);
+    x.warn(1, 0);
+    reads(x, "warn 0;", 0);
+    x.days(1);
+    reads(x, "heard 1;", 1);
+    due("heard 1: findingOf(0, 6)", x.findingOf(0, 6), 1);
+    x.view(0, 3);
+    due("not yet: findingOf(0, 6)", x.findingOf(0, 6), 0);
+    InquiryBench none = persons(1);
+    none.paper(0, 0, 1, 0);
+    none.stamp(0, 0, 5);
+    none.finding(0, 0, 5, 0);
+    none.warn(0, 0);
+    due("without rules, warned today: findingOf(0, 6)", none.findingOf(0, 6), 0);
   }
 
   private static void leansByRules() {
@@ -1676,6 +1728,13 @@ public final class PromiseTest {
     x.lose(0);
     everyMany(x, 3, 2, 3, 2, 2, 1, 3, 1, 3, 0, 2, 3, 2, 5, 3);
     outside("many", x::many, -1, 15, BAD);
+    InquiryBench none = persons(1);
+    none.paper(0, 0, 1, 0);
+    none.stamp(0, 0, 0);
+    due("known from hour 0: knew(0, 0, 0)", none.knew(0, 0, 0), 1000);
+    due("but nothing was found: many(9)", none.many(9), 0);
+    none.finding(0, 0, 0, 0);
+    due("many(9)", none.many(9), 1);
   }
 
   private static void keep() {
